@@ -352,14 +352,14 @@ public final class StillYear {
 
     public int packing() {
         Packing packing = new Packing(studio);
-        packing.layFrom(0, 0);
+        packing.search();
         return packing.isFound() ? packing.fewest : NONE;
     }
 
     public int packed(int sitting) throws NoSuchElementException {
         needSitting(sitting);
         Packing packing = new Packing(studio);
-        packing.layFrom(0, 0);
+        packing.search();
         return packing.isFound() ? packing.best[sitting] : NONE;
     }
 
@@ -763,7 +763,7 @@ public final class StillYear {
         private static final int BYTES_FED = 20;
         private static final int GREATEST_NUMBER = 1000000;
 
-        final int[] bytes = new int[STUDIO_BYTES];
+        private final int[] bytes = new int[STUDIO_BYTES];
         int size;
         int faultPlace = NONE;
         private int faultKind;
@@ -1684,11 +1684,16 @@ public final class StillYear {
             return fewest <= MOST_SITTINGS;
         }
 
-        void layFrom(int sitting, int years) {
+        void search() {
+            lay(0, 0);
+        }
+
+        /** Lays this SITTING and those behind it, so many YEARS being begun; it goes as deep as there are SITTINGS. */
+        private void lay(int sitting, int years) {
             if (years >= fewest) {
                 return;
             }
-            if (sitting >= studio.sittings) {
+            if (sitting >= studio.sittings || sitting >= way.length) {
                 fewest = years;
                 System.arraycopy(way, 0, best, 0, best.length);
                 return;
@@ -1698,7 +1703,7 @@ public final class StillYear {
                 if (laid[year] + days <= studio.year) {
                     laid[year] += days;
                     way[sitting] = year;
-                    layFrom(sitting + 1, Math.max(years, year + 1));
+                    lay(sitting + 1, Math.max(years, year + 1));
                     laid[year] -= days;
                 }
             }

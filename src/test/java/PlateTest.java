@@ -175,6 +175,7 @@ public final class PlateTest {
         Checks.due("alike: darkest(0)", x.darkest(0), 1);
         Checks.due("alike: darkest(1)", x.darkest(1), 6);
         Checks.due("alike: stillest(0)", x.stillest(0), 1);
+        leastOfAll();
         StillYear none = new StillYear();
         for (int what = 0; what <= 1; what++) {
             Checks.due("no sitters: hungriest", none.hungriest(what), StillYear.NONE);
@@ -183,6 +184,19 @@ public final class PlateTest {
         StillYear dark = Checks.in("seat 0;seat 0;");
         Checks.due("light 0: brightest(0)", dark.brightest(0), 0);
         Checks.due("light 0: brightest(1)", dark.brightest(1), 0);
+    }
+
+    private static void leastOfAll() {
+        StillYear x = Checks.in("seat 0;seat 1;sitter 1 9;");
+        Checks.work(x, "sit 0 1;day;");
+        Checks.due("1 is something: darkest(0)", x.darkest(0), 1);
+        Checks.due("1 is something: darkest(1)", x.darkest(1), 1);
+        Checks.due("1 is something: crowd", x.crowd(1), 1);
+        Checks.due("1 is something: empty(1)", x.empty(1), 1);
+        Checks.due("1 is something: absent", x.absent(), 0);
+        Checks.due("1 is something: selves", x.sitter(0, 5), 2);
+        Checks.due("1 is something: seen", x.seat(1, 3), 0);
+        Checks.due("1 is something: lead", x.lead(1), 1);
     }
 
     private static void would() {

@@ -139,9 +139,11 @@ public final class SearchTest {
         packed("sitting 1;sitting 9;year 8;", -1, -1, -1);
         packed("sitting 5;sitting 5;year 10;", 1, 0, 0);
         packed("sitting 5;sitting 6;year 10;", 2, 0, 1);
-        // first fit needs three years here, the fewest are two
+        // each in the first year with room for it: three years; the fewest are two
+        packed("sitting 5;sitting 4;sitting 6;sitting 5;year 10;", 2, 0, 1, 1, 0);
         packed("sitting 3;sitting 3;sitting 2;sitting 5;sitting 5;sitting 2;year 10;", 2, 0, 0, 0, 1, 1, 0);
         packed("sitting 4;sitting 1;sitting 6;sitting 5;sitting 4;year 10;", 2, 0, 0, 1, 0, 1);
+        packed("sitting 7;sitting 5;sitting 1;sitting 3;sitting 6;sitting 4;sitting 2;sitting 2;year 15;", 2, 0, 0, 0, 1, 1, 1, 0, 1);
         packed(Checks.times(8, "sitting 400;") + "year 400;", 8, 0, 1, 2, 3, 4, 5, 6, 7);
         packed(Checks.times(8, "sitting 50;") + "year 400;", 1, 0, 0, 0, 0, 0, 0, 0, 0);
     }

@@ -121,6 +121,12 @@ public final class TextTest {
         studioFault("Seat 1;", -9, 0);
         studioFault("  stool 1;", -9, 2);
         studioFault("seatseat 1;", -9, 0);
+        studioFault("seatz 1;", -9, 0);
+        studioFault("seata 1;", -9, 0);
+        studioFault("seat{1;", -9, 4);
+        studioFault("seat`1;", -9, 4);
+        studioFault("seat 1:", -9, 6);
+        studioFault("seat /1;", -9, 5);
         studioFault("seat\t1;", -9, 4);
         studioFault("sitter 1;", -9, 8);
         studioFault("seat 10;", -8, 5);
