@@ -77,20 +77,23 @@ final class BoundsOfSteps {
 
     private void refusedChangesNothing() {
         about("one that can't be done is REFUSED, and changes nothing;");
-        StillYear x = Checks.in("seat 2;seat 5;sitter 4 60;sitter 1 60;food 1;");
-        work(x, "sit 0 0;day;feed 1;day;", 4, 0);
-        refusedAlone(x, "sit 0 0;");
-        refusedAlone(x, "sit 1 0;");
-        refusedAlone(x, "rise 1;");
-        refusedAlone(x, "feed 0;");
-        refusedAlone(x, "curtain 1 5;");
-        StillYear fed = Checks.in("seat 2;sitter 4 60;");
-        refusedAlone(fed, "feed 0;");
+        String hungry = "sit 0 0;day;feed 1;day;";
+        refusedAlone(hungry, "sit 0 0;");
+        refusedAlone(hungry, "sit 1 0;");
+        refusedAlone(hungry, "rise 1;");
+        refusedAlone(hungry, "feed 0;");
+        refusedAlone(hungry, "curtain 1 5;");
+        refusedAlone("sit 0 0;", "feed 0;");
+        refusedAlone("sit 0 0;", "again 60[feed 0;];");
     }
 
-    private static void refusedAlone(StillYear x, String step) {
+    /** There is one meal. */
+    private static void refusedAlone(String ahead, String step) {
+        StillYear x = Checks.in("seat 2;seat 5;sitter 4 60;sitter 1 60;food 1;");
+        Checks.work(x, ahead);
+        Checks.due("refused ahead of " + step, x.told(7), 0);
         String before = Checks.allThatWorkChanges(x);
-        work(x, step, 0, 1);
+        work(x, step, 0, step.startsWith("again") ? 60 : 1);
         Checks.same("what " + step + " leaves", Checks.allThatWorkChanges(x), before);
     }
 

@@ -58,7 +58,7 @@ public final class ModelTest {
 
     private void tell(String kind, String text) throws Exception {
         String fed = random.nextInt(6) == 0 ? spoilt(text) : text;
-        int before = x.count(1);
+        int before = model.tape.length();
         if (before > 0) {
             // what is left on the tape is read as a text first
             call(StillYear.class.getMethod("law", int.class), Math.min(before, 150));
@@ -267,7 +267,7 @@ public final class ModelTest {
     }
 
     private void call(Method m, int... a) throws Exception {
-        if (!asDue) {
+        if (!asDue || called == CALLS) {
             return;
         }
         called++;
