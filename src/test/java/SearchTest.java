@@ -7,6 +7,7 @@ public final class SearchTest {
         bright();
         places();
         placesAlike();
+        placesOfAnotherStudio();
         packing();
         Checks.end("SearchTest");
     }
@@ -120,6 +121,18 @@ public final class SearchTest {
         StillYear x = Checks.in("seat 3;seat 3;seat 1;seat 3;sitter 2 1;sitter 2 1;sitter 2 1;");
         placed(x, 18, 0, 1, 3);
         Checks.due("places changes nothing", x.told(5), 0);
+    }
+
+    /** What was weighed for a larger studio does not count in a smaller one. */
+    private static void placesOfAnotherStudio() {
+        StillYear x = Checks.in(Checks.times(8, "seat 9;") + Checks.times(6, "sitter 9 9;"));
+        placed(x, 6 * 81, 0, 1, 2, 3, 4, 5);
+        Checks.studio(x, "seat 1;seat 2;sitter 1 9;sitter 2 9;");
+        placed(x, 5, 0, 1);
+        Checks.studio(x, "");
+        placed(x, 0);
+        Checks.studio(x, "seat 3;seat 1;seat 2;sitter 1 9;sitter 2 9;");
+        placed(x, 8, 2, 0);
     }
 
     private static void packed(String studio, int years, int... year) {
